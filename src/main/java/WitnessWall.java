@@ -381,7 +381,16 @@ public final class WitnessWall {
             }
         }
         if (hasWall()) {
-            h = digestOfWall(h);
+            for (int thing = 0; thing < THINGS; thing++) {
+                h = 31L * h + said(thing);
+            }
+            h = 31L * h + term(0);
+            h = 31L * h + term(1);
+            h = 31L * h + keep(0);
+            h = 31L * h + keep(1);
+            h = 31L * h + peace(0);
+            h = 31L * h + peace(1);
+            h = 31L * h + worlds(1);
         }
         for (int place = 0; place < page.size; place++) {
             h = 31L * h + page.letters[place];
@@ -390,20 +399,6 @@ public final class WitnessWall {
             h = 31L * h + count(what);
         }
         return h;
-    }
-
-    private long digestOfWall(long before) {
-        long h = before;
-        for (int thing = 0; thing < THINGS; thing++) {
-            h = 31L * h + said(thing);
-        }
-        h = 31L * h + term(0);
-        h = 31L * h + term(1);
-        h = 31L * h + keep(0);
-        h = 31L * h + keep(1);
-        h = 31L * h + peace(0);
-        h = 31L * h + peace(1);
-        return 31L * h + worlds(1);
     }
 
     private boolean hasWall() {
@@ -539,7 +534,7 @@ public final class WitnessWall {
         void dropBetween(int least, int greatest) {
             int left = 0;
             for (int place = 0; place < size; place++) {
-                if (!isWithin(sights[place], least, greatest)) {
+                if (sights[place] < least || sights[place] > greatest) {
                     sights[left] = sights[place];
                     left++;
                 }
@@ -621,7 +616,7 @@ public final class WitnessWall {
             }
             for (int one = 0; one < size; one++) {
                 int told = witnesses[one].colourOf(thing);
-                if ((group >> one & 1) == 1 && isColour(told)) {
+                if ((group >> one & 1) == 1 && told >= 0 && told < COLOURS) {
                     tally[told]++;
                 }
             }

@@ -305,6 +305,11 @@ public final class PromiseTest {
         Due.is("10 older ones too", x.having(0, 0), 2);
         Due.is("10 of each kind", x.having(0, 1), 2);
         Due.is("10 the last", x.having(5, 3), 1);
+        Due.write(x, "w,fa0;");
+        x.wall();
+        Due.is("10 of another wall's nobody", x.having(0, 1), 0);
+        Due.write(x, "wa0a1,wa0,ba1f3;");
+        x.wall();
         Due.is("10 nobody", x.having(0, 2), 0);
         Due.is("10 having(6, 0)", x.having(6, 0), OUTSIDE);
         Due.is("10 having(-1, 0)", x.having(-1, 0), OUTSIDE);
@@ -350,6 +355,8 @@ public final class PromiseTest {
         shown("ma0b0c0;", 3, 1, 1, 40813);
         shown("ma0a1a2;", 0, 3, 1, 32424);
         shown("ma0b0a2;", 0, 0, 1, 40024);
+        shown("ma3b0;", 0, 0, 1, 40024);
+        shown("mb0a0c3;", 0, 3, 1, 41103);
         shown("s;", 1, 2, 1, 62424);
         shown("sa0b0c0;", 0, 0, 0, 408);
         shown("sa0b0c0;", 1, 3, 0, 408);
@@ -680,6 +687,8 @@ public final class PromiseTest {
         Due.is("24 slips", x.count(2), 1);
         Due.is("24 seen", x.count(6), 1);
         Due.is("24 sorts", x.witness(1, 5), 4);
+        Due.is("24 sorts of the other", x.witness(0, 5), 31);
+        slipsComeBack();
         Due.is("24 all of it", x.digest(), then);
         x.show(0, 2, 2);
         x.letter('w');
@@ -692,6 +701,21 @@ public final class PromiseTest {
         Due.is("24 a new image", x.image(), 0);
         Due.is("24 restore() of it", x.restore(), 0);
         Due.is("24 the count of walls is not kept", x.count(8), 2);
+    }
+
+    private static void slipsComeBack() {
+        WitnessWall x = Due.wall("b,f;a6,b6");
+        x.slip(3, 1, 0, 0);
+        x.slip(2, 1, 1, 0);
+        x.image();
+        Due.is("24 ORDER with two slips", x.term(1), 2001);
+        x.tear();
+        for (int many = 0; many < 6; many++) {
+            x.slip(1, 0, 2, 2);
+        }
+        Due.is("24 ORDER with others", x.term(1), 0);
+        x.restore();
+        Due.is("24 ORDER with the two again", x.term(1), 2001);
     }
 
     private static void promise25Count() {
