@@ -372,6 +372,15 @@ public final class PromiseTest {
         Due.is("11 UNKNOWN comes first", x.show(2, 6, 4), UNKNOWN);
         Due.is("11 refused: head", head(x), 242424);
         Due.is("11 refused: count(5)", x.count(5), 0);
+        // Beyond 512 calls answers are free; this class keeps to the promise there, too.
+        for (int time = 1; time <= 9999; time++) {
+            x.show(1, 0, 0);
+        }
+        Due.is("11 shown 9999 times", x.count(5), 9999);
+        Due.is("11 once more", x.show(0, 0, 0), FULL);
+        Due.is("11 OUTSIDE comes ahead of FULL", x.show(0, 0, 4), OUTSIDE);
+        Due.is("11 full: head", head(x), 242424);
+        Due.is("11 full: count(5)", x.count(5), 9999);
     }
 
     private static void promise12Be() {
