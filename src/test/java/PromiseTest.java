@@ -619,7 +619,7 @@ public final class PromiseTest {
 
     private static void promise22Drawn() {
         WitnessWall x = Due.wall("w,ba0,f;");
-        // Seeds 0, 12345, 1406932606, 654583775: draws of 3, 6 and 4 are 0, 5 and 0.
+        // Seeds 0, 12345, 1406932606, 654583775: draws of 3, 6 and 4 are 0, 0 and 0.
         Due.is("22 one drawn", x.drawn(1, 0, 0), 1);
         Due.is("22 the seed then", x.drawn(1, 0, 2), 654583775);
         Due.is("22 no clash", x.drawn(1, 0, 1), 0);
