@@ -106,13 +106,41 @@ public final class EdgesOfAllTest {
         Due.is("24 image() of a full one", x.image(), 3);
         x.tear();
         x.forget();
+        for (int many = 0; many < 6; many++) {
+            x.slip(1, 0, 5, 0);
+            x.see(0, 2, false);
+        }
         x.show(0, 5, 3);
         x.be(0, 2);
         x.be(1, 1);
         Due.is("24 restore() of a full one", x.restore(), 3);
         Due.is("24 all is full again", x.digest(), full);
+        eachSlipComesBack();
         Due.is("24 no seventh slip", x.slip(1, 0, 0, 0), Refusal.FULL);
         Due.is("24 no seventh is seen", x.see(0, 0, true), Refusal.FULL);
+    }
+
+    /** One SLIP of six matters, at each place, and others were told since the IMAGE. */
+    private static void eachSlipComesBack() {
+        for (int place = 0; place < 6; place++) {
+            WitnessWall x = Due.wall("b,f,b;a6");
+            for (int many = 0; many < 6; many++) {
+                x.slip(many == place ? 4 : 6, many == place ? 1 : 0, many == place ? 0 : 5, 0);
+                x.see(many == place ? 1 : 0, many == place ? 3 : 2, false);
+            }
+            x.image();
+            x.tear();
+            x.forget();
+            for (int many = 0; many < 6; many++) {
+                x.slip(6, 2, 3, 3);
+                x.see(2, 0, true);
+            }
+            Due.is("24 nothing is said by the others, " + place, x.term(1), 0);
+            x.restore();
+            Due.is("24 the slip at " + place + " comes in again", x.term(1), 1);
+            Due.is("24 what is SEEN at " + place + " is so again", x.witness(1, 5), 30);
+            Due.is("24 no more of the others, " + place, x.witness(2, 5), 31);
+        }
     }
 
     private static void fill(WitnessWall x) {

@@ -9,6 +9,7 @@ public final class EdgesOfTheWallTest {
         promise2Full();
         promise2OutsideAheadOfFull();
         promise3BlankFromEmptyToFull();
+        promise3NoLetterComesBack();
         promise4NoFault();
         promise4FirstOfSeveralFaults();
         termsKindLetters();
@@ -114,6 +115,22 @@ public final class EdgesOfTheWallTest {
         x.letter('x');
         Due.is("3 with a wall", x.blank(), 1);
         Due.is("3 the wall stays", x.said(0), 0);
+    }
+
+    /** "THE PAGE is empty": what stood there is not read behind a shorter text, by blank() or by wall(). */
+    private static void promise3NoLetterComesBack() {
+        for (boolean read : new boolean[] {false, true}) {
+            for (String text : new String[] {"", "w", "w;", "w;a", "w;a1", "w;a1,", "w;a1,b"}) {
+                WitnessWall x = new WitnessWall();
+                Due.write(x, "w;a1,b2");
+                Due.is("3 the longer one", read ? x.wall() : x.blank(), read ? 1 : 7);
+                Due.write(x, text);
+                Due.is("3 fault() of '" + text + "'", x.fault(), text.length());
+                boolean whole = text.equals("w;") || text.equals("w;a1");
+                Due.is("3 wall() of '" + text + "'", x.wall(), whole ? 1 : Refusal.STATE);
+                Due.is("3 letters of '" + text + "'", x.blank(), whole ? 0 : text.length());
+            }
+        }
     }
 
     private static int faultOf(String text) {
