@@ -109,6 +109,19 @@ public final class LanguageTest {
         }
         Due.isTrue("the library: " + library, Set.of("Integer.bitCount", "Math.max").containsAll(library));
         theRoom(code);
+        theLengths(code);
+    }
+
+    /** A method ends with the first brace that stands as far in as its first line does. */
+    private static void theLengths(String code) {
+        Matcher method = Pattern.compile("(?m)^( {4}| {8})(?! |if|for|switch|\\})[^\\n=]*\\) \\{\\n(?s:(.*?))^\\1\\}").matcher(code);
+        int found = 0;
+        while (method.find()) {
+            long lines = method.group().lines().count();
+            Due.isTrue("sixty lines at most: " + method.group().lines().findFirst().orElse("").trim(), lines <= 60);
+            found++;
+        }
+        Due.isTrue("methods of the face and more: " + found, found > FACE.size());
     }
 
     /** Objects are made with the object itself alone: by a field's initialiser or the Hall's constructor. */
